@@ -425,6 +425,12 @@ public final class PromisesTest {
             Check.answers(0, "recover from mark " + mark, x::recover);
             Check.same("mark " + mark + " becomes 0", words(x, 32, 3) + x.about(4), "0 0 0");
         }
+        NestCells one = new NestCells();
+        one.spoil(35, 9);
+        one.spoil(37, 8);
+        one.spoil(32, 1);
+        Check.answers(1, "recover from mark 1", one::recover);
+        Check.same("the first entry alone", cells(one, 0) + one.about(4), "9 2");
         NestCells y = new NestCells();
         for (int j = 0; j < 32; j++) {
             y.spoil(34 + 2 * j, 31 - j);
