@@ -136,10 +136,10 @@ public final class NestCells {
         int homes = 0;
         if (words[MARK] >= 1 && words[MARK] <= MOST_ENTRIES) {
             homes = writeHomesFromEntries(words[MARK]);
+        }
+        // A MARK that is 0 already does not become 0, so nothing is written.
+        if (words[MARK] != 0) {
             putWord(MARK, 0);
-        } else {
-            // The document calls only the case above writes, so this one is not counted.
-            words[MARK] = 0;
         }
         System.arraycopy(words, 0, cells, 0, CELLS);
         return homes;

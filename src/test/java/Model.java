@@ -137,9 +137,10 @@ final class Model {
                     homes++;
                 }
             }
+        }
+        if (mark != 0) {
             put(32, 0);
         }
-        disk[32] = 0;
         System.arraycopy(disk, 0, cells, 0, 32);
         return homes;
     }

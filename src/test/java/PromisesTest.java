@@ -423,8 +423,17 @@ public final class PromisesTest {
             x.spoil(35, 9);
             x.spoil(32, mark);
             Check.answers(0, "recover from mark " + mark, x::recover);
-            Check.same("mark " + mark + " becomes 0", words(x, 32, 3) + x.about(4), "0 0 0");
+            Check.same("mark " + mark + " becomes 0, a write", words(x, 32, 3) + x.about(4), "0 0 1");
+            Check.answers(0, "recover once more", x::recover);
+            Check.same("a mark that is 0 is no write", x.about(4), 1);
         }
+        NestCells cut = open(1, 5);
+        cut.crash(2);
+        cut.commit();
+        cut.spoil(32, 33);
+        cut.crash(1);
+        Check.answers(0, "recover from a spoiled mark when off", cut::recover);
+        Check.same("no crash cuts it off", words(cut, 32, 34, 35) + cut.about(4) + cut.about(5), "0 0 0 20");
         NestCells one = new NestCells();
         one.spoil(35, 9);
         one.spoil(37, 8);
