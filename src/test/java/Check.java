@@ -23,19 +23,13 @@ final class Check {
         same(what, told(call), String.valueOf(due));
     }
 
-    /** The call throws this very class, and nothing that can be asked of the object changes by it. */
-    static void argument(NestCells x, String what, Call call) {
-        refused(x, what, call, "IllegalArgumentException");
+    /** The call throws this very class; that nothing changes by it is RefusedTest's. */
+    static void argument(String what, Call call) {
+        same(what, told(call), "throws.IllegalArgumentException");
     }
 
-    static void state(NestCells x, String what, Call call) {
-        refused(x, what, call, "IllegalStateException");
-    }
-
-    private static void refused(NestCells x, String what, Call call, String name) {
-        String before = picture(x);
-        same(what, told(call), "throws." + name);
-        same(what + ", what it leaves", picture(x), before);
+    static void state(String what, Call call) {
+        same(what, told(call), "throws.IllegalStateException");
     }
 
     /** The answer as a text, or throws. with the exception's name. */
@@ -54,7 +48,8 @@ final class Check {
             all.append(x.about(what)).append(' ');
         }
         all.append("levels ");
-        for (int i = 0; i < x.about(1); i++) {
+        int levels = x.about(1);
+        for (int i = 0; i < levels; i++) {
             all.append(x.level(i, 1)).append(':').append(x.level(i, 0)).append(' ');
         }
         all.append("cells ");

@@ -2,7 +2,8 @@ import java.util.Random;
 
 /** Long runs of calls, the same ones each time, on the program and on the model: every answer is the same. */
 public final class ModelTest {
-    private static final int RUNS = 3000;
+    private static final int RUNS = 6000;
+    /** Later calls on an object may answer anything. */
     private static final int CALLS = 512;
     /** How often each call comes, in the order of call(): a run leans to one of these. */
     private static final int[][] LEANINGS = {
@@ -26,17 +27,21 @@ public final class ModelTest {
         int[] leaning = LEANINGS[run % LEANINGS.length];
         NestCells x = new NestCells();
         Model[] model = {new Model()};
-        for (int n = 1; n <= CALLS; n++) {
+        int length = 1 + random.nextInt(CALLS);
+        for (int n = 1; n <= length && n + pictureCalls(model[0]) <= CALLS; n++) {
             int call = pick(random, leaning);
             int a = number(random, range(call));
             int b = random.nextInt(4) == 0 ? random.nextInt() : random.nextInt(35) - 1;
             String what = "run " + run + ", call " + n + ": " + call + "(" + a + ", " + b + ")";
             String due = Check.told(() -> onModel(model, call, a, b));
             Check.same(what, Check.told(() -> onProgram(x, call, a, b)), due);
-            if (n % 16 == 0) {
-                Check.same(what + ", what is there then", Check.picture(x), picture(model[0]));
-            }
         }
+        Check.same("run " + run + ", what is there then", Check.picture(x), picture(model[0]));
+    }
+
+    /** How many calls a picture takes that is made after one call more. */
+    private static int pictureCalls(Model model) {
+        return 7 + 1 + 2 * (model.about(1) + 1) + 32 + 98;
     }
 
     private static int pick(Random random, int[] leaning) {

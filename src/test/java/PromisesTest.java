@@ -50,7 +50,7 @@ public final class PromisesTest {
 
     private static void format() {
         String fresh = Check.picture(new NestCells());
-        NestCells x = open(2, 5);
+        NestCells x = Calls.open(2, 5);
         x.commit();
         x.commit();
         x.begin();
@@ -60,7 +60,7 @@ public final class PromisesTest {
         x.spoil(97, 1);
         x.format();
         Check.same("format in a transaction", Check.picture(x), fresh);
-        off(x);
+        Calls.off(x);
         x.crash(3);
         x.format();
         Check.same("format when off", Check.picture(x), fresh);
@@ -73,16 +73,16 @@ public final class PromisesTest {
             Check.answers(due, "begin", x::begin);
             Check.same("levels after begin", x.about(1), due);
         }
-        Check.state(x, "begin a ninth", x::begin);
+        Check.state("begin a ninth", x::begin);
         x.abort();
         Check.answers(8, "begin again", x::begin);
-        off(x);
-        Check.state(x, "begin when off", x::begin);
+        Calls.off(x);
+        Check.state("begin when off", x::begin);
     }
 
     private static void write() {
         NestCells x = new NestCells();
-        Check.state(x, "write without a transaction", () -> x.write(0, 1));
+        Check.state("write without a transaction", () -> x.write(0, 1));
         x.begin();
         Check.answers(0, "write", () -> x.write(31, Integer.MIN_VALUE));
         Check.answers(Integer.MIN_VALUE, "write again", () -> x.write(31, 7));
@@ -93,27 +93,27 @@ public final class PromisesTest {
         Check.answers(7, "write in a point's level", () -> x.write(31, 8));
         Check.same("a trace in a level of its own", x.level(1, 0), 1);
         for (int cell : NO_CELLS) {
-            Check.argument(x, "write " + cell, () -> x.write(cell, 1));
+            Check.argument("write " + cell, () -> x.write(cell, 1));
         }
-        off(x);
-        Check.state(x, "write when off", () -> x.write(0, 1));
-        Check.argument(x, "write no cell when off", () -> x.write(32, 1));
-        Check.argument(new NestCells(), "write no cell without a transaction", () -> x.write(-1, 1));
+        Calls.off(x);
+        Check.state("write when off", () -> x.write(0, 1));
+        Check.argument("write no cell when off", () -> x.write(32, 1));
+        Check.argument("write no cell without a transaction", () -> new NestCells().write(-1, 1));
         fullOfTraces();
     }
 
     private static void fullOfTraces() {
         NestCells x = new NestCells();
         x.begin();
-        writeFirst(x, 32);
+        Calls.writeFirst(x, 32);
         x.begin();
-        writeFirst(x, 28);
+        Calls.writeFirst(x, 28);
         Check.same("sixty traces", x.about(2), 60);
-        Check.state(x, "the 61st trace", () -> x.write(28, 1));
-        Check.argument(x, "no cell among sixty traces", () -> x.write(32, 1));
+        Check.state("the 61st trace", () -> x.write(28, 1));
+        Check.argument("no cell among sixty traces", () -> x.write(32, 1));
         Check.answers(100, "a cell with a trace", () -> x.write(0, 5));
         x.point(3);
-        Check.state(x, "the 61st trace in a new level", () -> x.write(0, 1));
+        Check.state("the 61st trace in a new level", () -> x.write(0, 1));
         x.release(3);
         x.commit();
         Check.same("traces that were there are gone", x.about(2), 32);
@@ -122,21 +122,21 @@ public final class PromisesTest {
     }
 
     private static void read() {
-        NestCells x = open(1, 5);
+        NestCells x = Calls.open(1, 5);
         Check.answers(5, "read what was written", () -> x.read(0));
         Check.answers(0, "read another", () -> x.read(31));
         x.commit();
         Check.answers(5, "read without a transaction", () -> x.read(0));
         for (int cell : NO_CELLS) {
-            Check.argument(x, "read " + cell, () -> x.read(cell));
+            Check.argument("read " + cell, () -> x.read(cell));
         }
-        off(x);
-        Check.state(x, "read when off", () -> x.read(0));
-        Check.argument(x, "read no cell when off", () -> x.read(32));
+        Calls.off(x);
+        Check.state("read when off", () -> x.read(0));
+        Check.argument("read no cell when off", () -> x.read(32));
     }
 
     private static void commitInner() {
-        NestCells x = open(3, 5);
+        NestCells x = Calls.open(3, 5);
         x.write(9, 6);
         x.abort();
         x.write(4, 1);
@@ -144,14 +144,14 @@ public final class PromisesTest {
         x.write(4, 2);
         x.write(5, 3);
         Check.answers(1, "commit an inner one", x::commit);
-        Check.same("its traces went out, its points are gone", levels(x), "-1:2 ");
+        Check.same("its traces went out, its points are gone", Calls.levels(x), "-1:2 ");
         Check.same("no write by it", x.about(4), 0);
         x.begin();
         x.write(4, 77);
         Check.answers(1, "commit over a cell with a trace", x::commit);
-        Check.same("that trace is gone", levels(x), "-1:2 ");
+        Check.same("that trace is gone", Calls.levels(x), "-1:2 ");
         Check.answers(2, "abort the outer one", x::abort);
-        Check.same("the oldest tells", cells(x, 0, 4, 5, 9), "0 0 0 0 ");
+        Check.same("the oldest tells", Calls.cells(x, 0, 4, 5, 9), "0 0 0 0 ");
     }
 
     private static void commitOutermost() {
@@ -162,19 +162,19 @@ public final class PromisesTest {
         x.write(2, 8);
         x.write(17, 0);
         Check.answers(0, "commit the outermost one", x::commit);
-        Check.same("homes", words(x, 2, 17, 31), "8 0 -9 ");
-        Check.same("mark, count that wraps", words(x, 32, 33), "0 -2147483648 ");
-        Check.same("entries, cells rising", words(x, 34, 35, 36, 37, 38, 39, 40), "2 8 17 0 31 -9 0 ");
+        Check.same("homes", Calls.words(x, 2, 17, 31), "8 0 -9 ");
+        Check.same("mark, count that wraps", Calls.words(x, 32, 33), "0 -2147483648 ");
+        Check.same("entries, cells rising", Calls.words(x, 34, 35, 36, 37, 38, 39, 40), "2 8 17 0 31 -9 0 ");
         Check.same("writes: 6, 1, 1, 3, 1", x.about(4), 12);
-        Check.same("nothing is open", levels(x) + x.about(0) + x.about(2), "00");
+        Check.same("nothing is open", Calls.levels(x) + x.about(0) + x.about(2), "00");
         x.begin();
         Check.answers(0, "commit with no trace", x::commit);
         Check.same("it writes word 33 alone", x.about(4), 13);
         Check.same("word 33", x.disk(33), Integer.MIN_VALUE + 1);
         x.begin();
-        writeFirst(x, 32);
+        Calls.writeFirst(x, 32);
         Check.answers(0, "commit of all cells", x::commit);
-        Check.same("its last entry", words(x, 96, 97), "31 131 ");
+        Check.same("its last entry", Calls.words(x, 96, 97), "31 131 ");
         Check.same("its writes: 64, 1, 1, 32, 1", x.about(4), 13 + 99);
     }
 
@@ -187,14 +187,14 @@ public final class PromisesTest {
         x.write(1, 11);
         x.write(2, 12);
         Check.answers(0, "commit with points", x::commit);
-        Check.same("entries of all levels", words(x, 34, 35, 36, 37, 38), "1 11 2 12 0 ");
+        Check.same("entries of all levels", Calls.words(x, 34, 35, 36, 37, 38), "1 11 2 12 0 ");
         Check.same("points are gone", x.about(1), 0);
     }
 
     private static void commitCutOff() {
         int writes = 9;
         for (int n = 1; n <= writes + 1; n++) {
-            NestCells x = open(1, 5);
+            NestCells x = Calls.open(1, 5);
             x.write(6, 7);
             x.point(2);
             x.crash(n);
@@ -205,7 +205,7 @@ public final class PromisesTest {
             Check.same("writes before crash " + n, x.about(4), cut ? n - 1 : writes);
             Check.same("nothing open after crash " + n, x.about(0) + x.about(1) + x.about(2) + x.about(6), 0);
             Check.same("told after crash " + n, x.about(3), cut ? 0 : 1);
-            Check.same("disk after crash " + n, words(x, 34, 35, 36, 37, 33, 0, 6), diskAt(n));
+            Check.same("disk after crash " + n, Calls.words(x, 34, 35, 36, 37, 33, 0, 6), diskAt(n));
             Check.same("mark after crash " + n, x.disk(32), n > 6 && cut ? 2 : 0);
         }
         NestCells y = new NestCells();
@@ -228,13 +228,13 @@ public final class PromisesTest {
 
     private static void commitRefused() {
         NestCells x = new NestCells();
-        Check.state(x, "commit with none", x::commit);
-        off(x);
-        Check.state(x, "commit when off", x::commit);
+        Check.state("commit with none", x::commit);
+        Calls.off(x);
+        Check.state("commit when off", x::commit);
     }
 
     private static void abort() {
-        NestCells x = open(1, 5);
+        NestCells x = Calls.open(1, 5);
         x.begin();
         x.write(0, 6);
         x.write(1, 7);
@@ -243,22 +243,22 @@ public final class PromisesTest {
         x.point(5);
         x.write(0, 9);
         Check.answers(4, "abort: traces of all its levels", x::abort);
-        Check.same("cells of the outer one", cells(x, 0, 1), "5 0 ");
-        Check.same("one transaction with its level", levels(x) + x.about(0), "-1:1 1");
+        Check.same("cells of the outer one", Calls.cells(x, 0, 1), "5 0 ");
+        Check.same("one transaction with its level", Calls.levels(x) + x.about(0), "-1:1 1");
         Check.answers(1, "abort the outermost one", x::abort);
-        Check.same("cells as they were", cells(x, 0, 1), "0 0 ");
+        Check.same("cells as they were", Calls.cells(x, 0, 1), "0 0 ");
         Check.same("no write by it", x.about(4) + x.disk(33), 0);
-        Check.state(x, "abort with none", x::abort);
+        Check.state("abort with none", x::abort);
         x.begin();
         Check.answers(0, "abort with no trace", x::abort);
-        off(x);
-        Check.state(x, "abort when off", x::abort);
+        Calls.off(x);
+        Check.state("abort when off", x::abort);
     }
 
     private static void point() {
         NestCells x = new NestCells();
-        Check.state(x, "point without a transaction", () -> x.point(0));
-        Check.argument(x, "point without a name or a transaction", () -> x.point(10));
+        Check.state("point without a transaction", () -> x.point(0));
+        Check.argument("point without a name or a transaction", () -> x.point(10));
         for (int t = 1; t <= 8; t++) {
             x.begin();
             for (int name = 9; name >= 0; name--) {
@@ -270,33 +270,33 @@ public final class PromisesTest {
         Check.answers(10, "point that is there", () -> x.point(4));
         Check.same("no level more", x.about(1), 88);
         for (int name : NO_NAMES) {
-            Check.argument(x, "point " + name, () -> x.point(name));
+            Check.argument("point " + name, () -> x.point(name));
         }
-        off(x);
-        Check.state(x, "point when off", () -> x.point(0));
-        Check.argument(x, "no name when off", () -> x.point(-1));
+        Calls.off(x);
+        Check.state("point when off", () -> x.point(0));
+        Check.argument("no name when off", () -> x.point(-1));
     }
 
     private static void pointMoves() {
-        NestCells x = open(1, 5);
+        NestCells x = Calls.open(1, 5);
         x.point(1);
         x.write(0, 6);
         x.write(1, 7);
         x.point(2);
         x.write(2, 8);
         Check.answers(2, "point that moves", () -> x.point(1));
-        Check.same("its traces went to the level before", levels(x), "-1:2 2:1 1:0 ");
+        Check.same("its traces went to the level before", Calls.levels(x), "-1:2 2:1 1:0 ");
         x.begin();
         Check.answers(1, "the same name in an inner one", () -> x.point(1));
-        Check.same("the outer point stays", levels(x), "-1:2 2:1 1:0 -1:0 1:0 ");
+        Check.same("the outer point stays", Calls.levels(x), "-1:2 2:1 1:0 -1:0 1:0 ");
         x.abort();
         Check.answers(2, "the latest point set again", () -> x.point(1));
-        Check.same("it stays the latest", levels(x), "-1:2 2:1 1:0 ");
+        Check.same("it stays the latest", Calls.levels(x), "-1:2 2:1 1:0 ");
     }
 
     private static void back() {
         NestCells x = new NestCells();
-        Check.state(x, "back without a transaction", () -> x.back(0));
+        Check.state("back without a transaction", () -> x.back(0));
         x.begin();
         x.write(0, 5);
         x.point(1);
@@ -307,26 +307,26 @@ public final class PromisesTest {
         x.point(3);
         x.write(1, 9);
         Check.answers(3, "back", () -> x.back(2));
-        Check.same("cells at that point", cells(x, 0, 1), "6 0 ");
-        Check.same("the point stays, later ones are gone", levels(x), "-1:1 1:1 2:0 ");
-        Check.argument(x, "back to a later one", () -> x.back(3));
+        Check.same("cells at that point", Calls.cells(x, 0, 1), "6 0 ");
+        Check.same("the point stays, later ones are gone", Calls.levels(x), "-1:1 1:1 2:0 ");
+        Check.argument("back to a later one", () -> x.back(3));
         Check.answers(0, "back again", () -> x.back(2));
         Check.answers(1, "back to the first one", () -> x.back(1));
-        Check.same("cells at the first point", cells(x, 0, 1), "5 0 ");
+        Check.same("cells at the first point", Calls.cells(x, 0, 1), "5 0 ");
         x.begin();
-        Check.argument(x, "back to an outer one's point", () -> x.back(1));
+        Check.argument("back to an outer one's point", () -> x.back(1));
         x.abort();
         for (int name : NO_NAMES) {
-            Check.argument(x, "back " + name, () -> x.back(name));
+            Check.argument("back " + name, () -> x.back(name));
         }
-        off(x);
-        Check.state(x, "back when off", () -> x.back(1));
-        Check.argument(x, "back, no name, when off", () -> x.back(10));
+        Calls.off(x);
+        Check.state("back when off", () -> x.back(1));
+        Check.argument("back, no name, when off", () -> x.back(10));
     }
 
     private static void release() {
         NestCells x = new NestCells();
-        Check.state(x, "release without a transaction", () -> x.release(0));
+        Check.state("release without a transaction", () -> x.release(0));
         x.begin();
         x.point(1);
         x.write(0, 6);
@@ -335,22 +335,22 @@ public final class PromisesTest {
         x.point(3);
         x.write(2, 8);
         Check.answers(2, "release the middle one", () -> x.release(2));
-        Check.same("its traces went to the level before", levels(x), "-1:0 1:2 3:1 ");
-        Check.same("cells stay", cells(x, 0, 1, 2), "6 7 8 ");
-        Check.argument(x, "release what is gone", () -> x.release(2));
+        Check.same("its traces went to the level before", Calls.levels(x), "-1:0 1:2 3:1 ");
+        Check.same("cells stay", Calls.cells(x, 0, 1, 2), "6 7 8 ");
+        Check.argument("release what is gone", () -> x.release(2));
         Check.answers(1, "release the first one", () -> x.release(1));
-        Check.same("to the transaction's level", levels(x), "-1:2 3:1 ");
+        Check.same("to the transaction's level", Calls.levels(x), "-1:2 3:1 ");
         Check.answers(1, "back to the one that is left", () -> x.back(3));
-        Check.same("cells at that point", cells(x, 0, 1, 2), "6 7 0 ");
+        Check.same("cells at that point", Calls.cells(x, 0, 1, 2), "6 7 0 ");
         x.begin();
-        Check.argument(x, "release an outer one's point", () -> x.release(3));
+        Check.argument("release an outer one's point", () -> x.release(3));
         x.abort();
         for (int name : NO_NAMES) {
-            Check.argument(x, "release " + name, () -> x.release(name));
+            Check.argument("release " + name, () -> x.release(name));
         }
-        off(x);
-        Check.state(x, "release when off", () -> x.release(3));
-        Check.argument(x, "release, no name, when off", () -> x.release(-1));
+        Calls.off(x);
+        Check.state("release when off", () -> x.release(3));
+        Check.argument("release, no name, when off", () -> x.release(-1));
     }
 
     private static void releaseKeepsTheOlderTrace() {
@@ -364,11 +364,11 @@ public final class PromisesTest {
         x.point(3);
         x.write(31, 9);
         x.release(2);
-        Check.same("a trace that is there stays alone", levels(x), "-1:0 1:2 3:1 ");
+        Check.same("a trace that is there stays alone", Calls.levels(x), "-1:0 1:2 3:1 ");
         Check.answers(1, "back over the later level", () -> x.back(3));
-        Check.same("what it was there", cells(x, 31, 0), "7 8 ");
+        Check.same("what it was there", Calls.cells(x, 31, 0), "7 8 ");
         Check.answers(2, "back over both", () -> x.back(1));
-        Check.same("what it was first", cells(x, 31, 0), "0 0 ");
+        Check.same("what it was first", Calls.cells(x, 31, 0), "0 0 ");
     }
 
     private static void crash() {
@@ -384,7 +384,7 @@ public final class PromisesTest {
         Check.same("told again", x.about(3), 3);
         x.spoil(0, 1);
         Check.same("a spoiled word is no write", x.about(3), 3);
-        emptyCommits(x, 2);
+        Calls.emptyCommits(x, 2);
         Check.same("it comes nearer with each write", x.about(3), 1);
         x.begin();
         Check.answers(NestCells.NONE, "the crash comes", x::commit);
@@ -394,14 +394,14 @@ public final class PromisesTest {
     }
 
     private static void recover() {
-        NestCells x = open(1, 5);
+        NestCells x = Calls.open(1, 5);
         x.write(6, 7);
         x.crash(7);
         x.commit();
         x.crash(1);
         Check.answers(2, "recover from a mark", x::recover);
-        Check.same("power, no crash told", words(x, 32) + x.about(5) + x.about(3), "0 00");
-        Check.same("homes and cells", words(x, 0, 6) + cells(x, 0, 6), "5 7 5 7 ");
+        Check.same("power, no crash told", Calls.words(x, 32) + x.about(5) + x.about(3), "0 00");
+        Check.same("homes and cells", Calls.words(x, 0, 6) + Calls.cells(x, 0, 6), "5 7 5 7 ");
         Check.same("two homes and the mark were writes", x.about(4), 6 + 3);
         Check.answers(0, "recover again", x::recover);
         Check.same("no write by it", x.about(4), 9);
@@ -411,8 +411,8 @@ public final class PromisesTest {
         x.spoil(6, 70);
         x.crash(50);
         Check.answers(0, "recover with the power on", x::recover);
-        Check.same("transactions are gone", levels(x) + x.about(0) + x.about(2) + x.about(3), "000");
-        Check.same("the cells are their homes", cells(x, 0, 6), "5 70 ");
+        Check.same("transactions are gone", Calls.levels(x) + x.about(0) + x.about(2) + x.about(3), "000");
+        Check.same("the cells are their homes", Calls.cells(x, 0, 6), "5 70 ");
     }
 
     private static void recoverFromSpoiledMarks() {
@@ -423,23 +423,23 @@ public final class PromisesTest {
             x.spoil(35, 9);
             x.spoil(32, mark);
             Check.answers(0, "recover from mark " + mark, x::recover);
-            Check.same("mark " + mark + " becomes 0, a write", words(x, 32, 3) + x.about(4), "0 0 1");
+            Check.same("mark " + mark + " becomes 0, a write", Calls.words(x, 32, 3) + x.about(4), "0 0 1");
             Check.answers(0, "recover once more", x::recover);
             Check.same("a mark that is 0 is no write", x.about(4), 1);
         }
-        NestCells cut = open(1, 5);
+        NestCells cut = Calls.open(1, 5);
         cut.crash(2);
         cut.commit();
         cut.spoil(32, 33);
         cut.crash(1);
         Check.answers(0, "recover from a spoiled mark when off", cut::recover);
-        Check.same("no crash cuts it off", words(cut, 32, 34, 35) + cut.about(4) + cut.about(5), "0 0 0 20");
+        Check.same("no crash cuts it off", Calls.words(cut, 32, 34, 35) + cut.about(4) + cut.about(5), "0 0 0 20");
         NestCells one = new NestCells();
         one.spoil(35, 9);
         one.spoil(37, 8);
         one.spoil(32, 1);
         Check.answers(1, "recover from mark 1", one::recover);
-        Check.same("the first entry alone", cells(one, 0) + one.about(4), "9 2");
+        Check.same("the first entry alone", Calls.cells(one, 0) + one.about(4), "9 2");
         NestCells y = new NestCells();
         for (int j = 0; j < 32; j++) {
             y.spoil(34 + 2 * j, 31 - j);
@@ -447,7 +447,7 @@ public final class PromisesTest {
         }
         y.spoil(32, 32);
         Check.answers(32, "recover from mark 32", y::recover);
-        Check.same("first and last entry", cells(y, 31, 0) + y.about(4), "1000 1031 33");
+        Check.same("first and last entry", Calls.cells(y, 31, 0) + y.about(4), "1000 1031 33");
     }
 
     private static void recoverFromSpoiledEntries() {
@@ -458,7 +458,7 @@ public final class PromisesTest {
         }
         x.spoil(32, 6);
         Check.answers(3, "entries with no cell are passed over", x::recover);
-        Check.same("in order, no further than the mark", cells(x, 5, 0, 1), "4 6 0 ");
+        Check.same("in order, no further than the mark", Calls.cells(x, 5, 0, 1), "4 6 0 ");
         Check.same("three homes and the mark were writes", x.about(4), 4);
     }
 
@@ -471,31 +471,31 @@ public final class PromisesTest {
             int asked = word;
             Check.answers(1000 - word, "word " + word, () -> x.disk(asked));
         }
-        off(x);
+        Calls.off(x);
         Check.answers(903, "a word when off", () -> x.disk(97));
         for (int word : NO_WORDS) {
-            Check.argument(x, "word " + word, () -> x.disk(word));
+            Check.argument("word " + word, () -> x.disk(word));
         }
     }
 
     private static void spoil() {
-        NestCells x = open(1, 5);
+        NestCells x = Calls.open(1, 5);
         x.commit();
         Check.answers(5, "spoil a home", () -> x.spoil(0, Integer.MIN_VALUE));
         Check.answers(Integer.MIN_VALUE, "what was spoiled", () -> x.spoil(0, 3));
         Check.answers(5, "the cell stays", () -> x.read(0));
         Check.same("no write by it", x.about(4), 6);
-        off(x);
+        Calls.off(x);
         Check.answers(0, "spoil when off", () -> x.spoil(97, 8));
         Check.same("spoiled when off", x.disk(97), 8);
         for (int word : NO_WORDS) {
-            Check.argument(x, "spoil " + word, () -> x.spoil(word, 1));
+            Check.argument("spoil " + word, () -> x.spoil(word, 1));
         }
     }
 
     private static void level() {
         NestCells x = new NestCells();
-        Check.argument(x, "a level when there is none", () -> x.level(0, 0));
+        Check.argument("a level when there is none", () -> x.level(0, 0));
         x.begin();
         x.write(0, 1);
         x.point(0);
@@ -510,16 +510,16 @@ public final class PromisesTest {
             Check.answers(traces[i], "traces of level " + i, () -> x.level(asked, 0));
             Check.answers(names[i], "name of level " + i, () -> x.level(asked, 1));
         }
-        Check.argument(x, "level 4", () -> x.level(4, 0));
-        Check.argument(x, "level -1", () -> x.level(-1, 1));
-        Check.argument(x, "what 2", () -> x.level(0, 2));
-        Check.argument(x, "what -1", () -> x.level(0, -1));
-        off(x);
-        Check.argument(x, "a level when off", () -> x.level(0, 0));
+        Check.argument("level 4", () -> x.level(4, 0));
+        Check.argument("level -1", () -> x.level(-1, 1));
+        Check.argument("what 2", () -> x.level(0, 2));
+        Check.argument("what -1", () -> x.level(0, -1));
+        Calls.off(x);
+        Check.argument("a level when off", () -> x.level(0, 0));
     }
 
     private static void about() {
-        NestCells x = open(2, 5);
+        NestCells x = Calls.open(2, 5);
         x.commit();
         x.begin();
         x.point(3);
@@ -533,70 +533,10 @@ public final class PromisesTest {
         }
         x.commit();
         Check.same("points are those of the innermost one", x.about(6), 0);
-        Check.argument(x, "about 7", () -> x.about(7));
-        Check.argument(x, "about -1", () -> x.about(-1));
-        off(x);
+        Check.argument("about 7", () -> x.about(7));
+        Check.argument("about -1", () -> x.about(-1));
+        Calls.off(x);
         Check.answers(1, "off", () -> x.about(5));
         Check.answers(0, "points when off", () -> x.about(6));
-    }
-
-    /** A new object with so many transactions open, cell 0 written in the innermost one. */
-    private static NestCells open(int transactions, int v) {
-        NestCells x = new NestCells();
-        for (int i = 0; i < transactions; i++) {
-            x.begin();
-        }
-        x.write(0, v);
-        return x;
-    }
-
-    /** The power fails with the next write, whatever is open; the disk stays as it is. */
-    private static void off(NestCells x) {
-        x.crash(1);
-        if (x.about(0) == 0) {
-            x.begin();
-        }
-        while (x.about(0) > 0) {
-            x.commit();
-        }
-        Check.same("the power is off", x.about(5), 1);
-    }
-
-    private static void emptyCommits(NestCells x, int n) {
-        for (int i = 0; i < n; i++) {
-            x.begin();
-            x.commit();
-        }
-    }
-
-    /** Cells 0 .. n - 1 become 100 and more. */
-    private static void writeFirst(NestCells x, int n) {
-        for (int cell = 0; cell < n; cell++) {
-            x.write(cell, 100 + cell);
-        }
-    }
-
-    private static String levels(NestCells x) {
-        StringBuilder all = new StringBuilder();
-        for (int i = 0; i < x.about(1); i++) {
-            all.append(x.level(i, 1)).append(':').append(x.level(i, 0)).append(' ');
-        }
-        return all.toString();
-    }
-
-    private static String cells(NestCells x, int... asked) {
-        StringBuilder all = new StringBuilder();
-        for (int cell : asked) {
-            all.append(x.read(cell)).append(' ');
-        }
-        return all.toString();
-    }
-
-    private static String words(NestCells x, int... asked) {
-        StringBuilder all = new StringBuilder();
-        for (int word : asked) {
-            all.append(x.disk(word)).append(' ');
-        }
-        return all.toString();
     }
 }
