@@ -300,6 +300,7 @@ public final class DiskTest {
         x.commit();
         Check.same("six are these", x.about(3), Integer.MAX_VALUE - 7);
     }
+
     private static void aCrashInALaterCommit() {
         NestCells x = new NestCells();
         x.crash(8);
